@@ -450,7 +450,7 @@ public final class RingReadings {
         }
     }
 
-    // What would throw is left out, so nobody asks whether a try succeeded.
+    // What would throw is left out, so nobody asks whether an attempt succeeded.
     private static void playTurn(State copy, int r) {
         int i = r / 16 % 24;
         switch (r % 16) {
@@ -984,7 +984,7 @@ public final class RingReadings {
             walkerCount = 0;
         }
 
-        // Each try answers whether it was possible, and changes nothing if it was not.
+        // Each attempt answers whether it was possible, and changes nothing if it was not.
 
         boolean tryCarve(int i, int c) {
             if (!ring.hasPlace(i) || !isCarvable(c)) {
