@@ -119,6 +119,7 @@ public final class WhatThereIsTest {
         reading("bc.a", 1, 1, 1, 3);
         reading("a.a", 1, 0, 0, 2);
         reading("abc.abc.", 2, 2, 1, 3);
+        reading(".ab.", 1, 0, 0, 2);
     }
 
     private static void reading(String ring, long... want) {
@@ -156,6 +157,13 @@ public final class WhatThereIsTest {
         RingReadings one = Check.fountain("?b.d?", "dabb", "bhd");
         Check.dueRow("the segment behind one divider", what -> one.segment(0, 0, what), 2, 4, 1, 0, 2);
         Check.dueRow("the same against the order", what -> one.segment(1, 0, what), 2, 4, 0, -1, 2);
+        RingReadings ends = Check.fountain(".a.bc.", "a", "cb");
+        Check.dueRow("the segment behind place 0", what -> ends.segment(0, 0, what), 0, 1, 1, 0, 0);
+        Check.dueRow("the next one", what -> ends.segment(0, 1, what), 2, 2, 0, -1, 0);
+        Check.dueRow("the segment behind the last place", what -> ends.segment(1, 0, what), 5, 2, 1, 1, 0);
+        Check.dueRow("the next one against the order", what -> ends.segment(1, 1, what), 2, 1, 1, 0, 0);
+        RingReadings first = Check.fountain(".ab");
+        Check.due("the divider at 0, against the order", first.segment(1, 0, 0), 0);
         RingReadings none = Check.fountain("abc", "abc");
         Check.refused(none, "segment(0, 0, 0) without a divider", Check.INDEX, () -> none.segment(0, 0, 0));
     }
@@ -222,6 +230,11 @@ public final class WhatThereIsTest {
         Check.due("the divider not yet seen", one.walker(0, 5), 0);
         one.go(1);
         Check.dueRow("one divider alone", what -> one.walker(0, 5 + what), 1, 1);
+        RingReadings first = Check.fountain(".ab.c", "ab", "c");
+        first.addWalker(0, 0, 1, 4);
+        Check.dueRow("the segment behind place 0", what -> first.walker(0, 5 + what), 1, 1);
+        first.go(1);
+        Check.dueRow("and the one before it", what -> first.walker(0, 5 + what), 2, 2);
         RingReadings none = Check.fountain("abc");
         none.addWalker(0, 0, 1, 5);
         Check.due("no divider, nothing known", none.walker(0, 5), 0);
