@@ -144,7 +144,7 @@ public final class ScriptsTest {
     }
 
     // The turns are played by the methods themselves on the object, and taken back by a save slot.
-    private static void same(RingReadings x, long seed, int m) {
+    static void same(RingReadings x, long seed, int m) {
         String before = Check.picture(x);
         int got = x.simulate(seed, m);
         Check.due("all there is, behind simulate", Check.picture(x), before);
