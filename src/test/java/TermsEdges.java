@@ -178,6 +178,11 @@ final class TermsEdges {
             Check.due("the divider ahead of " + s, most.segment(0, s, 0), 1 + 2 * s);
             Check.due("the divider ahead of " + s + ", against the order", most.segment(1, s, 0), 23 - 2 * s);
         }
+        RingReadings early = Check.fountain(".a.b.c.d.e.f.g.h.a.b.c.d");
+        for (int s = 0; s < 12; s++) {
+            Check.due("the divider ahead of " + s + " with one at place 0", early.segment(0, s, 0), 2 * s);
+            Check.due("the divider ahead of " + s + " with one at place 0, against the order", early.segment(1, s, 0), 22 - 2 * s);
+        }
         RingReadings first = Check.fountain(".ab..");
         Check.due("the one at place 0, in the order", first.segment(0, 0, 0), 0);
         Check.due("the one that is not at the last place, against it", first.segment(1, 0, 0), 3);

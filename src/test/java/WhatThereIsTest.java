@@ -164,6 +164,10 @@ public final class WhatThereIsTest {
         Check.dueRow("the next one against the order", what -> ends.segment(1, 1, what), 2, 1, 1, 0, 0);
         RingReadings first = Check.fountain(".ab");
         Check.due("the divider at 0, against the order", first.segment(1, 0, 0), 0);
+        RingReadings early = Check.fountain(".a.bc.?", "h", "cb");
+        Check.dueRow("the dividers, with one at place 0", s -> early.segment(0, s, 0), 0, 2, 5);
+        Check.dueRow("the dividers, with one at place 0, against the order", s -> early.segment(1, s, 0), 5, 2, 0);
+        Check.dueRow("the segment over the end against the order", what -> early.segment(1, 2, what), 0, 1, 1, 0, 1);
         RingReadings none = Check.fountain("abc", "abc");
         Check.refused(none, "segment(0, 0, 0) without a divider", Check.INDEX, () -> none.segment(0, 0, 0));
     }
